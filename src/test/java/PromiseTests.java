@@ -534,6 +534,12 @@ public final class PromiseTests {
         due("of 32 bits", x.cells(2), 0);
         x.put(1, 1, 0x70000);
         due("of 16 bits", x.cells(1), 2);
+        x.put(0, 0, 0x83);
+        due("the highest of 8 bits", x.cells(0), 0);
+        x.put(1, 0, 0x8003);
+        due("the highest of 16 bits", x.cells(1), 0);
+        x.put(2, 0, 0x80000003);
+        due("the highest of 32 bits", x.cells(2), 0);
         x.put(0, 0, -1);
         due("-1 in 8 bits", x.cells(0), 0);
         x.put(1, 0, -1);

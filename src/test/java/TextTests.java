@@ -68,6 +68,12 @@ public final class TextTests {
         due("law(0, ..)", x.law(0, 0, 3, 0, 0), 24);
         due("the other has none", x.law(1, 3, 9, 0, 0), 3);
         due("told(1)", x.told(1), 2);
+        due("open ones", Due.write(x, 0, "d<(1|(2<3)&!4"), -23);
+        due("are open no longer", Due.write(x, 0, "!!!!!d<4"), 1);
+        due("open ones again", Due.write(x, 0, "d*(!(1+"), -17);
+        due("are none to close", Due.write(x, 0, "d)"), -11);
+        due("nor to join", Due.write(x, 0, "d-1"), 1);
+        due("law(0, ..)", x.law(0, 0, 9, 0, 0), 8);
     }
 
     private static void fault(int use, String text, int place) {
@@ -161,6 +167,8 @@ public final class TextTests {
         fine(0, "d<f|l<s&1=2|3>4&(5<6)=(7<8)");
         fine(0, "(d<f)<(f<d)");
         fine(0, "1<(2<(3<4))");
+        fine(0, "(d&f)<(l|s)");
+        fine(0, "((d=1)|f)>(l<2&s)");
         fine(0, "0000+9999");
         fine(1, "n+e*r-t/2%3");
     }
@@ -229,6 +237,9 @@ public final class TextTests {
         value("10+!0", 11);
         value("10+!9", 10);
         value("10+!!9", 11);
+        value("!f", 1);
+        value("!f*5+3", 3);
+        value("!(f<d)*5", 5);
         value("10+!(0-1)", 10);
         value("10+!f*5", 10);
         value("10+!0*5", 15);

@@ -414,6 +414,16 @@ public final class WhatWouldBeTests {
         mirrored(x, 0, 21, 7, 15, 3);
         mirrored(x, 0, 19, 7, 13, 2);
         due("too far by one", x.mirrors(0, 10, 7, 0), NONE);
+        OneWindow y = new OneWindow();
+        y.window(0, 12);
+        y.cell(13, 1);
+        mirrored(y, 0, 2, 4, 0, 2);
+        mirrored(y, 0, 33, 3, 30, 3);
+        OneWindow z = new OneWindow();
+        z.window(0, 23);
+        z.cell(22, 1);
+        mirrored(z, 0, 33, 5, 35, 2);
+        mirrored(z, 0, 3, 4, 5, 3);
         x.window(29, 14);
         mirrored(x, 1, 10, 10, 8, 2);
         due("dims by 2", x.mirrors(1, 10, 11, 0), NONE);
@@ -448,6 +458,16 @@ public final class WhatWouldBeTests {
         z.cell(15, 1);
         mirrored(z, 0, 10, 4, 20, 3, 22, 2);
         due("by three", z.mirrors(0, 9, 1, 0), NONE);
+        OneWindow next = new OneWindow();
+        next.window(0, 26);
+        next.cell(8, 1);
+        next.cell(27, 1);
+        mirrored(next, 0, 9, 5, 14, 2, 15, 2);
+        OneWindow corner = new OneWindow();
+        corner.window(0, 12);
+        corner.cell(8, 1);
+        corner.cell(13, 1);
+        mirrored(corner, 0, 9, 3, 0, 2, 3, 3);
     }
 
     private static void mirrorsWhere() {
