@@ -299,6 +299,12 @@ public final class WhatWouldBeTests {
         ordered(x, 3, 0, 2, 1, 3);
         x.nights(1);
         ordered(x, 3, 0, 1, 2, 3);
+        x.image();
+        x.window(0, 0);
+        x.window(0, 0);
+        ordered(x, 5, 0, 1, 2, 3, 4, 5);
+        x.restore();
+        ordered(x, 3, 0, 1, 2, 3);
     }
 
     /** Each lamp's own night of a week: by WANTS that let it meet on that night alone. */
