@@ -65,6 +65,8 @@ public final class EdgesOfNights {
         edge("19, 20: STATE: NIGHT would be above 9999", in(READER, "nights(100) x99 = 9900", "nights(100) = STATE",
             "loose(100) = STATE", "count(0) = 9900", "count(10) = 1", "count(6) = 0", "nights(99) = 9999", "count(0) = 9999",
             "nights(1) = STATE", "loose(1) = STATE"));
+        edge("19, 20: STATE, where there is all the rest", in(VILLAGE, "nights(100) x98", "nights(95)", "count(0) = 9902",
+            "nights(98) = STATE", "loose(98) = STATE", "nights(97)", "nights(1) = STATE", "loose(1) = STATE", "count(0) = 9999"));
         edge("19, 20: BEYOND is asked ahead of STATE", "nights(100) x99 = 0", "nights(98) = 0", "nights(2) = STATE",
             "loose(2) = STATE", "nights(101) = BEYOND", "nights(0) = BEYOND", "nights(-1) = BEYOND", "loose(101) = BEYOND",
             "loose(0) = BEYOND", "loose(-1) = BEYOND", "nights(MAX) = BEYOND", "nights(MIN) = BEYOND", "loose(MAX) = BEYOND",
@@ -211,6 +213,12 @@ public final class EdgesOfNights {
         edge("24: NONE: there is no YARD", in(walls, "seat(0) = NONE", "seat(1) = BEYOND", "cell(35, 0) = 3", "seat(0) = 35",
             "cell(35, 1) = 0", "cell(0, 0) = 1", "seat(0) = 0", "cell(14, 0) = 3", "seat(0) = 14", "cell(14, 2) = 0",
             "seat(0) = 0"));
+        for (int c = 0; c < 36; c++) {
+            walls[c] = "cell(" + c + ", " + (1 + c % 3) + ")";
+        }
+        walls[36] = "count(0) = 7";
+        edge("24: NONE: there is no YARD, where there is all the rest", in(VILLAGE, in(walls, "seat(0) = NONE", "seat(2) = NONE",
+            "seat(3) = BEYOND")));
         edge("24: of several the least", "window(0, 14) = 0", "seat(0) = 14", "cell(14, 1) = 0", "seat(0) = 8", "cell(8, 1) = 0",
             "seat(0) = 13", "cell(13, 2) = 0", "seat(0) = 15", "cell(15, 3) = 0", "seat(0) = 20");
         edge("24: all is dark: the least", "window(60, 14) = 0", "seat(0) = 0", "cell(0, 3) = 0", "seat(0) = 1", "nights(1) = 0",

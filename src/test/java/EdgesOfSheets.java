@@ -87,6 +87,8 @@ public final class EdgesOfSheets {
             "count(9) = 9", "trace(0) = 71", "trace(8) = 12", "trace(9) = NONE", "become(0, 59) = 6", "voice(0, 3, 1) = -8",
             "count(9) = 8", "trace(0) = 60", "trace(7) = 10", "trace(8) = NONE", "voice(0, 2, 1) = -8", "count(9) = 1",
             "trace(0) = 12", "trace(1) = NONE", "trace(39) = NONE", "trace(40) = NONE");
+        edge("30: NONE: there is none such, where there is all the rest", in(VILLAGE, "trace(8) = 12", "trace(9) = NONE",
+            "trace(-1) = NONE", "trace(40) = NONE"));
         edge("30: a refused voice() leaves it", "window(0, 0) = 0", "voice(0, 1, 1) = 2", "voice(0, 4, 1) = BEYOND",
             "voice(1, 0, 1) = BEYOND", "count(9) = 2", "trace(0) = 11", "trace(1) = 10");
     }
@@ -126,7 +128,7 @@ public final class EdgesOfSheets {
 
     private static void put() {
         edge("32: a SHEET is 0 to 3", in(VILLAGE, "put(-1, 0, 1) = BEYOND", "put(4, 0, 1) = BEYOND", "put(MIN, 0, 1) = BEYOND",
-            "put(MAX, 0, 1) = BEYOND", "put(0, 0, 1) = 1", "put(3, 0, 1) = NONE"));
+            "put(MAX, 0, 1) = BEYOND", "put(0, 0, 2) = 1", "put(3, 0, 1) = NONE"));
         edge("32: a number is one of those that there are", in(VILLAGE, "put(1, -1, 1) = BEYOND", "put(1, 5, 1) = BEYOND",
             "put(1, MIN, 1) = BEYOND", "put(1, MAX, 1) = BEYOND", "put(1, 0, 1) = 1", "put(1, 4, 1) = 1", "put(0, 40, 1) = BEYOND",
             "put(0, 39, 1) = 1", "put(2, 1, 1) = BEYOND", "put(2, 0, 1) = 1"));
@@ -233,6 +235,9 @@ public final class EdgesOfSheets {
     private static void image() {
         edge("37: NONE: there is none", in(READER, "restore() = NONE", "nights(2) = 2", "restore() = NONE", "count(0) = 2",
             "image() = 1", "restore() = 2"));
+        String[] unkept = String.join("\n", VILLAGE).replace("image()\n", "").split("\n");
+        edge("37: NONE: there is none, where there is all the rest", in(unkept, "count(0) = 7", "restore() = NONE", "image() = 1",
+            "restore() = 7"));
         edge("36: how often that was done, also behind restore()", "image() = 1", "restore() = 0", "image() = 2", "image() = 3",
             "restore() = 0", "restore() = 0", "image() = 4");
         edge("36: in place of one ahead; 37: which stays", in(READER, "image() = 1", "nights(5) = 5", "image() = 2", "nights(4) = 9",
@@ -258,16 +263,25 @@ public final class EdgesOfSheets {
             "check() = 1"));
     }
 
+    /** The first and the last of each row is changed behind the image. */
     private static void imageOfAll() {
-        String[] all = Edge.in(FULL, "tape " + "1+".repeat(24) + "12 = 50", "tell(3)", "tell(4)", "tell(7)", "tell(1) x17 = 20",
-            "image() = 1", "text(0) = 1", "check()", "clear() = 12", "turn(3) = 1", "nights(9)", "become(5, 0) = 5",
-            "change(9, 0, 0) = 34", "change(0, 1, 20) = 1", "change(5, 2, 0) = 20", "tape d = 1", "tell(5) = 1", "set(1, 2) = 1",
-            "restore() = 0");
+        String[] all = Edge.in(FULL, "become(0, 37) = 0", "become(5, 28) = 5", "cell(0, 3) = 0", "cell(35, 2) = 0",
+            "tape " + "1+".repeat(24) + "12 = 50", "tell(3)", "tell(1) x19 = 20", "image() = 1", "text(0) = 1", "check()",
+            "clear() = 12", "turn(3) = 1", "become(0, 0) = 3", "become(5, 0) = 2", "nights(9)", "change(9, 0, 0) = 34",
+            "change(0, 1, 20) = 1", "change(9, 1, 3) = 1", "change(0, 0, 17) = 0", "change(5, 2, 0)", "cell(0, 1) = 3",
+            "cell(35, 0) = 2", "tape d = 1", "tell(5) = 1", "set(1, 2) = 1", "set(0, 3) = 0", "seed(8) = 1", "restore() = 0");
         edge("36: all is kept: six, ten, twelve, fifty, twenty", in(all, "count(1) = 6", "count(2) = 10", "count(3) = 12",
             "count(7) = 50", "count(8) = 20", "count(5) = 200", "window(0, 0) = FULL", "person(0, 1) = FULL", "turn(0) = FULL",
-            "feed(0x31, 1) = FULL", "tell(0) = FULL", "ofWindow(5, 0) = 5", "ofWindow(3, 3) = 0", "ofPerson(9, 0) = 34",
-            "ofPerson(0, 1) = 1", "ofPerson(5, 2) = 20", "ofPerson(9, 3) = 0", "set(1, 1) = 1", "lit() = 0",
-            "law(0, 5, 5, 0, 0) = 10", "text(0) = 1", "law(0, 5, 5, 0, 0) = 36", "nights(11)", "lit() = 4"));
+            "feed(0x31, 1) = FULL", "tell(0) = FULL", "ofWindow(0, 0) = 3", "ofWindow(0, 1) = 7", "ofWindow(5, 0) = 2",
+            "ofWindow(5, 1) = 8", "ofWindow(0, 2) = 0", "ofWindow(5, 2) = 35", "ofWindow(3, 3) = 0", "ofPerson(9, 0) = 34",
+            "ofPerson(0, 0) = 0", "ofPerson(0, 1) = 1", "ofPerson(9, 1) = 1", "ofPerson(5, 2) = 20", "ofPerson(9, 3) = 0",
+            "ofPerson(0, 3) = 0", "set(1, 1) = 1", "set(0, 0) = 0", "count(10) = 1", "lit() = 0", "cell(0, 0) = 3",
+            "cell(35, 0) = 2", "law(0, 5, 5, 0, 0) = 10", "text(0) = 1", "law(0, 5, 5, 0, 0) = 36", "nights(11)", "lit() = 4"));
+        edge("36: all is kept: READ, EGGS and what a TEXT gives, of the first and of the last", in(FULL, "tape d+1 = 3",
+            "text(0) = 1", "tape 1 = 1", "text(1) = 1", "turn(0) = FULL", "change(9, 0, 0) = 34", "nights(1)", "ofPerson(0, 3) = 1",
+            "ofPerson(9, 3) = 1", "ofWindow(0, 3) = 3", "image() = 1", "tape d+2 = 3", "text(0) = 1", "tape 2 = 1", "text(1) = 1",
+            "nights(30)", "restore() = 1", "ofPerson(0, 3) = 1", "ofPerson(0, 2) = 19", "ofPerson(9, 3) = 1", "ofPerson(9, 2) = 19",
+            "ofWindow(0, 3) = 3", "ofWindow(5, 3) = 0", "count(4) = 3", "law(0, 0, 3, 0, 0) = 4", "law(1, 3, 0, 0, 0) = 1"));
     }
 
     private static void notInTheImage() {
@@ -285,6 +299,8 @@ public final class EdgesOfSheets {
         edge("38: 20 wait at most", in(READER, "tell(1) x19 = 19", "count(8) = 19", "tell(20) = 20", "count(8) = 20",
             "tell(0) = FULL", "tell(1) = FULL", "tell(MIN) = FULL", "count(8) = 20", "told(4) = 3", "check() = 2", "count(8) = 0",
             "tell(1) = 1"));
+        edge("38: FULL, where there is all the rest", in(VILLAGE, "tell(6) x18 = 20", "tell(6) = FULL", "check() = 3",
+            "tell(6) = 1"));
         edge("38: any number may wait", "tell(MIN) = 1", "tell(MAX) = 2", "tell(-1000000001) = 3", "tell(0) = 4", "check() = 1",
             "tell(0) = 1", "tell(MAX) = 2", "check() = 2", "told(1) = 0");
     }
@@ -328,6 +344,8 @@ public final class EdgesOfSheets {
         edge("41: k is 1 to 5; another k is counted, too", "told(0) = BEYOND", "told(1) = 1", "told(6) = BEYOND", "told(1) = 2",
             "told(-1) = BEYOND", "told(MIN) = BEYOND", "told(MAX) = BEYOND", "told(1) = 5", "told(2) = 0", "told(3) = 0",
             "told(4) = 0", "told(5) = 0");
+        edge("41: another k, where there is all the rest", in(VILLAGE, "told(0) = BEYOND", "told(6) = BEYOND", "told(-1) = BEYOND",
+            "told(1) = 3", "told(5) = 0"));
         edge("41: how many of each", "lit() = NONE", "told(2) = 1", "restore() = NONE", "told(2) = 2", "sheet(0, 8, -1) = STATE",
             "told(3) = 1", "window(0, 0) x6 = 5", "window(0, 0) = FULL", "told(4) = 1", "as(0, 6) = KIND", "told(5) = 1",
             "cell(36, 0) = BEYOND", "told(1) = 1", "told(2) = 2", "told(3) = 1", "told(4) = 1", "told(5) = 1");

@@ -75,6 +75,9 @@ public final class EdgesOfTexts {
         edge("16: eight at the end", "feed(0x2b31, 2) = 2", "feed(0x2b312b312b312b31, 8) x5 = 42", "feed(0x312d, 7) = 49",
             "text(0) = -52", "feed(0x2b31, 2) = 2", "feed(0x2b312b312b312b31, 8) x5 = 42", "feed(0x39322d312b312b31, 8) = 50",
             "feed(0x31, 1) = FULL", "text(0) = 1", "law(0, 0, 0, 0, 0) = 1");
+        edge("16: FULL, where there is all the rest", in(EdgesOfVillage.HOUSE, "feed(0x312b312b312b312b, 8) x5 = 45",
+            "feed(0x312b312b312b, 6) = FULL", "feed(0x312b, 2) = 47", "feed(0x3333312b, 4) = FULL", "feed(0x32312b, 3) = 50",
+            "feed(0x31, 1) = FULL", "text(1) = 1", "law(1, 3, 5, 0, 0) = 44"));
         edge("16: BEYOND is asked ahead of FULL", "tape " + FIFTY.substring(0, 50) + " = 50", "feed(0x31, 0) = BEYOND",
             "feed(0x31, 9) = BEYOND", "feed(0x31, -1) = BEYOND", "feed(0x31, 1) = FULL", "text(1) = -14");
         edge("16: what was refused isn't there", "tape " + twelve + " = 12", "feed(0x2b, 9) = BEYOND", "feed(0x2b, 0) = BEYOND",
@@ -95,7 +98,8 @@ public final class EdgesOfTexts {
         edge("17: a FAULT of a first TEXT: there is none", "tape d*3+ = 4", "text(0) = -14", "law(0, 5, 6, 0, 0) = 11",
             "tape n*3+ = 4", "text(1) = -14", "law(1, 5, 6, 0, 0) = 5");
         edge("17: what a FAULT leaves open is open no longer", "tape !(((! = 5", "text(0) = -15", "tape (((((d))))) = 11",
-            "text(0) = 1", "tape (d<(f<(l = 8", "text(0) = -18", "tape d<f = 3", "text(0) = 1", "tape d) = 2", "text(0) = -11");
+            "text(0) = 1", "tape (d<(f<(l = 8", "text(0) = -18", "tape d<f = 3", "text(0) = 1", "tape d) = 2", "text(0) = -11", "tape d+! = 3", "text(0) = -13", "tape d = 1", "text(0) = 1",
+            "law(0, 0, 7, 0, 0) = 7", "tape 9-(8* = 5", "text(0) = -15", "tape d+1 = 3", "text(0) = 1", "law(0, 0, 7, 0, 0) = 8");
     }
 
     private static void emptyTape() {
@@ -218,6 +222,14 @@ public final class EdgesOfTexts {
         fine("term 2, B: two in each ( beside", 0, "(d<f)<(f<d)");
         fine("term 2, B: two in a ( in one of two", 0, "d<(f<(l<(s<1)))");
         fault("term 2, B: not three, the second in a (", 0, "d<(f<l)<s", 7);
+        gives("term 2: A is in T: & joins tighter than |", "10*(1|0&0)+1", 11);
+        gives("term 2: A is in T: & joins tighter than |", "10*(0&0|1)+1", 11);
+        gives("term 2: B is in A: = joins tighter than &", "10*(2&2=2)+1", 11);
+        gives("term 2: S is in B: + joins tighter than <", "10*(3<1+3)+1", 11);
+        gives("term 2: S is in B: - joins tighter than >", "10*(7-5>1)+1", 11);
+        gives("term 2: P is in S: * joins tighter than + and -", "50-2*3+4*5", 64);
+        gives("term 2: Q is in P: ! joins tighter than *", "3+!0*5", 8);
+        gives("term 2: a ( joins tightest", "(50-2)*(3-1)/(4+4)", 12);
         gives("term 2, S: many P, from the left", "20-1-2-3-4-5", 5);
         gives("term 2, P: many Q, from the left", "3600/2/3/4/5", 30);
         gives("term 2, P: many Q, from the left", "99%50%30%12*5/2", 17);
@@ -295,7 +307,8 @@ public final class EdgesOfTexts {
             "law(0, 4, 3, 0, 0) = 10", "law(0, MIN, MAX, 0, 0) = 9", "law(0, MAX, MIN, 0, 0) = 10", "law(0, 0, -1, 0, 0) = 10");
         edge("term 2: ! is 1 or 0", "tape !f+9", "text(0) = 1", "law(0, 0, 0, 0, 0) = 10", "law(0, 1, 0, 0, 0) = 9",
             "law(0, -1, 0, 0, 0) = 9", "law(0, MIN, 0, 0, 0) = 9", "law(0, 7, 0, 0, 0) = 9", "tape !!f+9", "text(0) = 1",
-            "law(0, 7, 0, 0, 0) = 10", "law(0, 0, 0, 0, 0) = 9");
+            "law(0, 7, 0, 0, 0) = 10", "law(0, 0, 0, 0, 0) = 9", "tape 9-(8-!f)", "text(0) = 1", "law(0, 0, 0, 0, 0) = 2",
+            "law(0, 3, 0, 0, 0) = 1", "tape 5+!f*3", "text(0) = 1", "law(0, 0, 0, 0, 0) = 8", "law(0, -3, 0, 0, 0) = 5");
     }
 
     private static void fadesAtWork() {

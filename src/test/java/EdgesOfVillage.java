@@ -17,10 +17,17 @@ public final class EdgesOfVillage {
         "person(34, 1) = 9", "turn(0) = 1", "turn(1) = 2", "turn(2) = 3", "turn(3) = 4", "turn(4) = 5", "turn(5) = 6",
         "turn(5) = 7", "turn(3) = 8", "turn(1) = 9", "turn(0) = 10", "turn(2) = 11", "turn(4) = 12"};
 
+    /** What else there may be in a full village: texts, sheets, a trace, an image, bytes, numbers that wait. */
+    static final String[] HOUSE = Edge.in(FULL, "tape n+r%3", "text(1)", "tape d+f+(l>12)", "text(0)", "seed(77)", "set(1, 2)",
+        "cell(10, 2)", "cell(4, 3)", "cell(26, 1)", "sheet(0, 8, 40)", "put(0, 0, 3)", "put(0, 5, 1)", "put(0, 39, 2)",
+        "sheet(1, 16, 5)", "put(1, 4, 3)", "sheet(2, 32, 1)", "nights(5)", "image()", "set(0, 1)", "nights(2)",
+        "tape n*2+e", "voice(2, 3, 7)", "tell(4)", "tell(5)");
+
     private EdgesOfVillage() {
     }
 
     public static void main(String[] args) {
+        lastCalls();
         errors();
         aNewObject();
         cell();
@@ -29,6 +36,7 @@ public final class EdgesOfVillage {
         windowsAreSix();
         ofWindow();
         shines();
+        shinesOnTheLastNight();
         dims();
         become();
         as();
@@ -52,6 +60,16 @@ public final class EdgesOfVillage {
 
     private static String[] in(String[] scene, String... lines) {
         return Edge.in(scene, lines);
+    }
+
+    private static void lastCalls() {
+        edge("an object is used for 512 calls", "image() x510 = 510", "restore() = 0", "image() = 511");
+        Due.part("an object is used for 512 calls, all refused but the last");
+        OneWindow x = new OneWindow();
+        for (int i = 0; i < 511; i++) {
+            Due.due("call " + i, x.lit(), Due.NONE);
+        }
+        Due.due("call 511", x.told(2), 511);
     }
 
     private static void errors() {
@@ -129,7 +147,7 @@ public final class EdgesOfVillage {
     private static void windowsAreSix() {
         edge("4: WINDOWS are 6 at most", "window(0, 0) = 0", "window(0, 1) = 1", "window(0, 2) = 2", "window(0, 3) = 3",
             "window(0, 4) = 4", "count(1) = 5", "window(0, 5) = 5", "count(1) = 6", "window(0, 6) = FULL", "count(1) = 6");
-        edge("4: BEYOND is asked ahead of FULL", in(FULL, "window(69, 35) = FULL", "window(70, 35) = BEYOND",
+        edge("4: BEYOND is asked ahead of FULL", in(HOUSE, "window(69, 35) = FULL", "window(70, 35) = BEYOND",
             "window(-1, 0) = BEYOND", "window(0, 36) = BEYOND", "window(0, -1) = BEYOND", "ofWindow(5, 2) = 35",
             "ofWindow(6, 2) = BEYOND"));
     }
@@ -166,6 +184,12 @@ public final class EdgesOfVillage {
             "ofWindow(0, 4) = " + want[1], "light(0, 20) = " + want[1], "nights(1) = 0", "ofWindow(0, 4) = " + want[2],
             "nights(1) = 0", "ofWindow(0, 4) = " + want[3], "nights(3) = 0", "ofWindow(0, 4) = " + want[4],
             "light(0, 20) = " + want[4]);
+    }
+
+    private static void shinesOnTheLastNight() {
+        edge("term 1, SHINES: NIGHT 9998 is even, 9999 odd and a multiple of 3", "window(40, 0) = 0", "window(60, 0) = 1",
+            "nights(100) x99 = 0", "nights(98) = 0", "ofWindow(0, 4) = 4", "ofWindow(1, 4) = 12", "nights(1) = 0",
+            "ofWindow(0, 4) = 0", "ofWindow(1, 4) = 0", "light(0, 0) = 0", "light(1, 0) = 0");
     }
 
     private static void dims() {
@@ -288,7 +312,7 @@ public final class EdgesOfVillage {
     private static void peopleAreTen() {
         edge("9: PEOPLE are 10 at most", "person(0, 1) x9 = 8", "count(2) = 9", "person(0, 1) = 9", "count(2) = 10",
             "person(0, 1) = FULL", "count(2) = 10", "count(5) = 200");
-        edge("9: BEYOND is asked ahead of FULL", in(FULL, "person(0, 1) = FULL", "person(36, 1) = BEYOND",
+        edge("9: BEYOND is asked ahead of FULL", in(HOUSE, "person(0, 1) = FULL", "person(36, 1) = BEYOND",
             "person(-1, 1) = BEYOND", "person(0, 0) = BEYOND", "person(0, 21) = BEYOND", "ofPerson(9, 0) = 34",
             "ofPerson(10, 0) = BEYOND"));
     }
@@ -338,7 +362,7 @@ public final class EdgesOfVillage {
         edge("13: TURNS are 12 at most", "window(0, 0) = 0", "window(0, 1) = 1", "turn(0) x11 = 11", "count(3) = 11",
             "turn(1) = 12", "turn(1) = FULL", "turn(0) = FULL", "count(3) = 12", "nights(11) = 0", "lit() = 1",
             "nights(1) = 0", "lit() = 0");
-        edge("13: BEYOND is asked ahead of FULL", in(FULL, "turn(0) = FULL", "turn(6) = BEYOND", "turn(-1) = BEYOND"));
+        edge("13: BEYOND is asked ahead of FULL", in(HOUSE, "turn(0) = FULL", "turn(6) = BEYOND", "turn(-1) = BEYOND"));
         edge("14: clear() of none, of one, of all; it can be filled again", "clear() = 0", "window(0, 0) = 0", "clear() = 0",
             "turn(0) = 1", "clear() = 1", "clear() = 0", "turn(0) x12 = 12", "clear() = 12", "count(3) = 0", "lit() = NONE",
             "turn(0) x12 = 12", "turn(0) = FULL", "lit() = 0");
@@ -347,6 +371,7 @@ public final class EdgesOfVillage {
     private static void lit() {
         edge("15: none, if TURNS are empty", "lit() = NONE", "window(0, 0) = 0", "lit() = NONE", "turn(0) = 1", "lit() = 0",
             "clear() = 1", "lit() = NONE", "told(2) = 3");
+        edge("15: none, if TURNS are empty, though there is all the rest", in(VILLAGE, "lit() = 0", "clear() = 4", "lit() = NONE"));
         edge("15: at the place of NIGHT's rest by the length: one, two, three", "window(0, 0) = 0", "window(0, 1) = 1",
             "window(0, 2) = 2", "turn(2) = 1", "lit() = 2", "nights(1) = 0", "lit() = 2", "turn(0) = 2", "lit() = 0",
             "nights(1) = 0", "lit() = 2", "turn(1) = 3", "lit() = 1", "nights(1) = 0", "lit() = 2", "nights(1) = 0",

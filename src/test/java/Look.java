@@ -98,7 +98,15 @@ final class Look {
         laws();
     }
 
+    /** Calls that may be refused come last: behind a refused one it could be too late to look. */
     private void sheets() {
+        for (int s = 0; s < 4; s++) {
+            int came = x.cells(s);
+            see("came from sheet " + s, came);
+            for (int c = 0; c < came; c++) {
+                see("number " + c, x.cell(c, 0));
+            }
+        }
         for (int a = 0; a < 4; a++) {
             for (int b = a + 1; b < 4; b++) {
                 see("alike " + a + " " + b, x.move(a, 0, b, 0, 0));
@@ -107,18 +115,15 @@ final class Look {
         for (int s = 0; s < 4; s++) {
             int size = sizeOf(s);
             see("size of sheet " + s, size);
-            if (size >= 0) {
-                numbers(s, size);
-                width(s, size);
+            if (size > 0) {
+                others(s, size);
+                width(s);
             }
         }
     }
 
     private int sizeOf(int s) {
-        if (x.cells(s) == Due.NONE) {
-            return -1;
-        }
-        int size = 40;
+        int size = x.cells(s) == Due.NONE ? 0 : 40;
         while (size > 0 && x.move(s, 0, s, 0, size) != size) {
             size--;
             calls++;
@@ -126,8 +131,8 @@ final class Look {
         return size;
     }
 
-    /** Each number of 0 to 3; of another one only where it stands. */
-    private void numbers(int s, int size) {
+    /** Where there are numbers of other than 0 to 3, and those behind the 36th. */
+    private void others(int s, int size) {
         int came = x.cells(s);
         for (int other = 0; other < 5 && came < Math.min(36, size); other++) {
             see("no cell at", came);
@@ -136,9 +141,6 @@ final class Look {
             came = x.cells(s);
         }
         see("came", came);
-        for (int c = 0; c < Math.min(36, size); c++) {
-            see("number " + c, x.cell(c, 0));
-        }
         if (size > 36) {
             see("the rest", x.move(s, 36, s, 0, size - 36));
             see("cells", x.cells(s));
@@ -148,13 +150,11 @@ final class Look {
         }
     }
 
-    private void width(int s, int size) {
-        if (size > 0) {
-            see("put", x.put(s, 0, 65793));
-            see("of 8 bits", x.cells(s));
-            see("put", x.put(s, 0, 65537));
-            see("of 8 or 16 bits", x.cells(s));
-        }
+    private void width(int s) {
+        see("put", x.put(s, 0, 65793));
+        see("of 8 bits", x.cells(s));
+        see("put", x.put(s, 0, 65537));
+        see("of 8 or 16 bits", x.cells(s));
     }
 
     private void image() {
