@@ -2,7 +2,7 @@ import java.util.Arrays;
 
 /**
  * A village that lights one window each night, by turns; whose light reaches whom, what they pay
- * for it, and what would be if. Every answer below LOW is an ERROR; see the document's promises.
+ * for it, and what would be if. ERRORS are answers below LOW; see the document's promises.
  */
 public final class OneWindow {
     private static final int LOW = -1000000000;

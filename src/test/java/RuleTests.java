@@ -118,7 +118,7 @@ public final class RuleTests {
 
     /** The source without comments, texts and signs. */
     private static String source() throws IOException {
-        Path file = Path.of(System.getProperty("source", "src/main/java/OneWindow.java"));
+        Path file = Path.of(System.getProperty("root", "."), "src/main/java/OneWindow.java");
         String s = Files.readString(file, StandardCharsets.UTF_8);
         s = s.replaceAll("(?s)/\\*.*?\\*/", "").replaceAll("//[^\n]*", "");
         return s.replaceAll("\"[^\"\n]*\"", "S").replaceAll("'(\\\\.|[^'])'", "C");
